@@ -41,12 +41,13 @@ public final class BargeBallast {
     private static final int[] MOST_SETTING = {9, 99, 200};
 
     private static final int KINDS = 5;
+    private static final int NO_KIND = -1;
     private static final int OPEN = 0;
     private static final int CLOSE = 1;
     private static final int FILL = 2;
     private static final int EMPTY = 3;
     private static final int LEVEL = 4;
-    /** The pump's modes are the kinds of order that pump, and this one. */
+    /** The pump's modes are the kinds of order that pump, and this one, which is no kind. */
     private static final int PUMP_OFF = -1;
     private static final int MINUTES_LIMIT = 60;
     private static final int PASS_LIMIT = 200;
@@ -915,7 +916,7 @@ public final class BargeBallast {
 
         private boolean takesLetter(char sign) {
             int kind = kindOfLetter(sign);
-            if (kind < 0 || orders >= TEXT_LIMIT) {
+            if (kind == NO_KIND || orders >= TEXT_LIMIT) {
                 return false;
             }
             kinds[orders] = kind;
@@ -926,14 +927,19 @@ public final class BargeBallast {
         }
 
         private static int kindOfLetter(char sign) {
-            switch (sign) {
-                case 'o': return OPEN;
-                case 'c': return CLOSE;
-                case 'f': return FILL;
-                case 'e': return EMPTY;
-                case 'l': return LEVEL;
-                default: return -1;
+            if (sign == 'o') {
+                return OPEN;
             }
+            if (sign == 'c') {
+                return CLOSE;
+            }
+            if (sign == 'f') {
+                return FILL;
+            }
+            if (sign == 'e') {
+                return EMPTY;
+            }
+            return sign == 'l' ? LEVEL : NO_KIND;
         }
 
         private boolean takesFirstDigit(char sign, char least, char most, int expectedThen) {

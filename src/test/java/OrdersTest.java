@@ -83,9 +83,11 @@ public final class OrdersTest {
         due("no order behind", x.waiting(3, 0), -1005);
         due("strike(2) again", x.strike(2), -1005);
         due("struck orders are not refused", x.count(13), 0);
+        due("strike(3)", x.strike(3), 1);
+        due("the first stays", x.waiting(0, 0), 0);
+        due("the second stays", x.waiting(1, 0), 1);
         due("strike(0)", x.strike(0), 1);
         due("strike(1)", x.strike(1), 1);
-        due("strike(3)", x.strike(3), 1);
         due("row is empty", x.count(12), 0);
     }
 

@@ -84,6 +84,9 @@ public final class TextsTest {
         fault("f61", 2);
         fault("f70", 2);
         fault("f6:", 2);
+        fault("f1:", 2);
+        fault("f1/", 2);
+        fault("f1a", 2);
         fault("f6/", 2);
         fault("f600", 3);
         fault("f100", 3);

@@ -154,6 +154,9 @@ public final class ToldTest {
         best("(1000 - 40 u) / (660 + u) below 1", x, 100, 0, 9, 0);
         best("at most 9", x, 9, 0, 9, 0);
         best("at most 8", x, 8, 0, 0, 1);
+        x.load(1, 20, 3);
+        best("600 / 580, and 560 / 581 with one unit", x, 100, 0, 1, 0);
+        best("at most 1", x, 1, 0, 1, 0);
     }
 
     private static void uprightPrefersTheLowestTankBehindTheFewestUnits() {
@@ -186,6 +189,10 @@ public final class ToldTest {
         y.load(1, 200, 3);
         due("tank 1 is empty", y.tank(1, 0), 0);
         best("the others have room for 80 alone", y, 100, 0, 90, 2);
+        BargeBallast z = new BargeBallast();
+        z.load(1, 131, 3);
+        due("3930 / 691", z.count(2), 5);
+        best("80 fill it, and 730 / 771 is below 1", z, 100, 0, 80, 0);
     }
 
     private static void uprightTakesOut() {
@@ -199,6 +206,18 @@ public final class ToldTest {
         best("out of 1", x, 100, 1, -84, 3);
         x.load(1, 300, -3);
         best("out of 0", x, 100, 0, -84, -3);
+        BargeBallast y = Barges.open();
+        y.set(0, 5);
+        y.set(2, 200);
+        Barges.workText(y, "f60;f60;f60;c4");
+        Barges.openOnly(y, 0, 0b01010101);
+        Barges.workText(y, "e44");
+        due("four times 45 and 100", y.count(6), 580);
+        y.load(0, 300, -3);
+        y.load(1, 300, -3);
+        y.load(2, 10, -3);
+        due("-9500 / 1590", y.count(2), -5);
+        best("45 empty it: -7700 / 1545", y, 100, 0, -45, -4);
     }
 
     private static void uprightDoesNotLookAtTheDraught() {
