@@ -5,6 +5,7 @@ public final class SoundingsTest {
     public static void main(String[] args) {
         soundAnswersTheWater();
         threeAreKept();
+        everyTankKeepsItsOwn();
         soundingRefusesWrongInputs();
         lossIsToldByTheLatestTwo();
         pumpedWaterHidesTheLoss();
@@ -48,6 +49,38 @@ public final class SoundingsTest {
         }
         due("the fourth is not kept", x.sounding(2, 3, true), -1005);
         due("far back", x.sounding(2, Integer.MAX_VALUE, false), -1005);
+    }
+
+    private static void everyTankKeepsItsOwn() {
+        BargeBallast x = new BargeBallast();
+        for (int tank = 0; tank < 8; tank++) {
+            Barges.openOnly(x, 0, 1 << tank);
+            Barges.workText(x, "f2;c0");
+        }
+        for (int tank = 0; tank < 8; tank++) {
+            x.leak(tank, tank + 1);
+        }
+        x.pass(3);
+        x.load(0, 33, 1);
+        for (int round = 0; round < 3; round++) {
+            for (int tank = 0; tank < 8; tank++) {
+                x.sound(tank);
+                x.pass(1);
+            }
+            x.pass(2);
+        }
+        for (int tank = 0; tank < 8; tank++) {
+            for (int back = 0; back < 3; back++) {
+                int leaks = tank == 0 ? 2 - back : 3 - back;
+                due("minute", x.sounding(tank, back, true), 39 - 10 * back + tank);
+                due("water", x.sounding(tank, back, false), 28 - (tank + 1) * leaks);
+            }
+            due("kept", x.tank(tank, 4), 3);
+            due("told loss", x.tank(tank, 5), tank + 1);
+            due("lost", x.tank(tank, 6), 3 * (tank + 1));
+        }
+        due("hold(0, 0)", x.hold(0, 0), 33);
+        due("hold(0, 1)", x.hold(0, 1), 1);
     }
 
     private static void soundingRefusesWrongInputs() {
