@@ -428,7 +428,9 @@ public final class BargeBallast {
         }
 
         void add(int cell, int change) {
-            put(cell, at(cell) + change);
+            if (cell >= 0 && cell < SIZE) {
+                cells[cell] += change;
+            }
         }
 
         void copyTo(int[] row) {
@@ -588,15 +590,8 @@ public final class BargeBallast {
             return difference >= 2 ? from : NO_TANK;
         }
 
-        static void runMinute(State state, int mode, int open) {
-            int rate = state.at(State.SETTING + RATE);
-            boolean moved = true;
-            for (int unit = 0; unit < rate && moved; unit++) {
-                moved = moveUnit(state, mode, open);
-            }
-        }
-
-        private static boolean moveUnit(State state, int mode, int open) {
+        /** Answers whether a unit could be moved. */
+        static boolean moveUnit(State state, int mode, int open) {
             switch (mode) {
                 case FILL: return fillUnit(state, tankToFill(state, open));
                 case EMPTY: return emptyUnit(state, tankToEmpty(state, open));
@@ -643,9 +638,13 @@ public final class BargeBallast {
     private static final class Minutes {
         static void run(State state, int mode, int minutes) {
             int open = state.openTanks();
+            int rate = state.at(State.SETTING + RATE);
             for (int minute = 0; minute < minutes; minute++) {
                 state.add(State.MINUTES, 1);
-                Pump.runMinute(state, mode, open);
+                boolean moved = true;
+                for (int unit = 0; unit < rate && moved; unit++) {
+                    moved = Pump.moveUnit(state, mode, open);
+                }
                 if (state.at(State.MINUTES) % LEAK_EVERY == 0) {
                     leakOut(state);
                 }
