@@ -2,12 +2,22 @@
 final class Answers {
     private int checked;
     private int wrong;
+    private String sentence = "";
+
+    /** Runs the test of one sentence of the document; what is wrong is printed behind it. */
+    void sentence(String said, Runnable test) {
+        int before = checked;
+        sentence = "\"" + said + "\": ";
+        test.run();
+        isTrue("the test of it asks something", checked > before);
+        sentence = "";
+    }
 
     void due(String call, long got, long want) {
         checked++;
         if (got != want) {
             wrong++;
-            System.out.println(call + " answered " + got + ", due is " + want);
+            System.out.println(sentence + call + " answered " + got + ", due is " + want);
         }
     }
 

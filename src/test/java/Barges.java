@@ -25,6 +25,68 @@ final class Barges {
         return barge;
     }
 
+    /**
+     * A barge of which every part of the state has been changed; the history is full, the
+     * snapshot is of another state, the text has orders, and some wait.
+     */
+    static BargeBallast lived() {
+        BargeBallast barge = open();
+        barge.load(0, 100, 3);
+        barge.load(2, 50, 2);
+        barge.leak(1, 4);
+        barge.set(1, 2);
+        barge.set(2, 130);
+        barge.setGroup(1, 13);
+        workText(barge, "c4;o1;f7;e2;o1;l1;c1;o3");
+        barge.sound(1);
+        barge.keep();
+        barge.pass(15);
+        barge.sound(1);
+        type(barge, "f5;c2;o0;l3");
+        barge.orderAll();
+        return barge;
+    }
+
+    /** As new, but for this water in the tanks from 0 on, and the time and river it took. */
+    static BargeBallast withWater(int... water) {
+        BargeBallast barge = new BargeBallast();
+        barge.set(0, 1);
+        barge.set(2, 200);
+        for (int tank = 0; tank < water.length; tank++) {
+            int units = water[tank] - barge.tank(tank, 0);
+            if (units != 0) {
+                barge.setGroup(0, 1 << tank);
+                workText(barge, "o0;" + pumping(units) + ";c0");
+            }
+        }
+        barge.clearText();
+        barge.setGroup(0, 3);
+        barge.set(0, 4);
+        barge.set(2, 120);
+        return barge;
+    }
+
+    /** The orders that move so many units at a rate of 1; below 0 into the river. */
+    private static String pumping(int units) {
+        String kind = units < 0 ? "e" : "f";
+        int minutes = Math.abs(units);
+        return minutes <= 60 ? kind + minutes : kind + "60;" + kind + (minutes - 60);
+    }
+
+    /** Lets time pass until the last digit of the minute is this one; at least one minute. */
+    static void passToDigit(BargeBallast barge, int digit) {
+        barge.pass(Math.floorMod(digit - barge.count(7) - 1, 10) + 1);
+    }
+
+    /** A barge in which one tank alone is open, with room under the deepest draught. */
+    static BargeBallast alone(int tank, int rate) {
+        BargeBallast barge = new BargeBallast();
+        barge.set(0, rate);
+        barge.set(2, 200);
+        openOnly(barge, 0, 1 << tank);
+        return barge;
+    }
+
     /** Leaves the water as it is, but makes the group the tanks and opens it. */
     static void openOnly(BargeBallast barge, int group, int tanks) {
         barge.setGroup(group, tanks);
