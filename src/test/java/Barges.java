@@ -1,5 +1,7 @@
 /** Barges in states that several tests start from. */
 final class Barges {
+    static final int ACTS = 11;
+
     private Barges() {
     }
 
@@ -45,6 +47,23 @@ final class Barges {
         type(barge, "f5;c2;o0;l3");
         barge.orderAll();
         return barge;
+    }
+
+    /** Each kind of act once, by its number; a barge that has lived can do them all. */
+    static int act(BargeBallast barge, int number) {
+        switch (number) {
+            case 0: return barge.load(1, 60, -2);
+            case 1: return barge.leak(1, 9);
+            case 2: return barge.setGroup(3, 7);
+            case 3: return barge.set(0, 9);
+            case 4: return barge.order(3, 9);
+            case 5: return barge.orderAll();
+            case 6: return barge.strike(1);
+            case 7: return barge.work(4);
+            case 8: return barge.pass(25);
+            case 9: return barge.sound(1);
+            default: return barge.restore();
+        }
     }
 
     /** As new, but for this water in the tanks from 0 on, and the time and river it took. */

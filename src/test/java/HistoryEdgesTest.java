@@ -4,7 +4,6 @@ import java.util.function.ToIntFunction;
 public final class HistoryEdgesTest {
     private static final int BAD_VALUE = -1002;
     private static final int NONE = -1005;
-    private static final int ACTS = 11;
 
     private static final Answers ANSWERS = new Answers();
     private static final Refusals REFUSALS = new Refusals(ANSWERS);
@@ -155,38 +154,22 @@ public final class HistoryEdgesTest {
         return x;
     }
 
-    private static int act(BargeBallast x, int number) {
-        switch (number) {
-            case 0: return x.load(1, 60, -2);
-            case 1: return x.leak(1, 9);
-            case 2: return x.setGroup(3, 7);
-            case 3: return x.set(0, 9);
-            case 4: return x.order(3, 9);
-            case 5: return x.orderAll();
-            case 6: return x.strike(1);
-            case 7: return x.work(4);
-            case 8: return x.pass(25);
-            case 9: return x.sound(1);
-            default: return x.restore();
-        }
-    }
-
     private static void eachActRecords() {
-        for (int number = 0; number < ACTS; number++) {
+        for (int number = 0; number < Barges.ACTS; number++) {
             BargeBallast x = ready();
             x.undo();
             due("before the act " + number, x.count(19), 3);
-            act(x, number);
+            Barges.act(x, number);
             due("the act " + number, x.count(19), 4);
             due("undo of the act " + number, x.undo(), 3);
         }
     }
 
     private static void actsInAFullHistory() {
-        for (int number = 0; number < ACTS; number++) {
+        for (int number = 0; number < Barges.ACTS; number++) {
             BargeBallast x = ready();
             due("before the act " + number, x.count(19), 4);
-            act(x, number);
+            Barges.act(x, number);
             due("the act " + number, x.count(19), 4);
             x.undo();
             same("undone", Barges.toldState(x), Barges.toldState(ready()));
@@ -318,26 +301,26 @@ public final class HistoryEdgesTest {
     }
 
     private static void undoBringsBackAll() {
-        for (int number = 0; number < ACTS; number++) {
+        for (int number = 0; number < Barges.ACTS; number++) {
             int now = number;
             BargeBallast x = ready();
-            act(x, number);
+            Barges.act(x, number);
             String changed = Barges.toldState(x);
             ANSWERS.isTrue("the act " + number + " changes the state",
                     !changed.equals(Barges.toldState(ready())));
             broughtBack("undo of the act " + number, y -> {
-                act(y, now);
+                Barges.act(y, now);
                 return y.undo();
             });
         }
     }
 
     private static void restoreBringsBackAll() {
-        for (int number = 0; number < ACTS - 1; number++) {
+        for (int number = 0; number < Barges.ACTS - 1; number++) {
             int now = number;
             broughtBack("restore behind the act " + number, y -> {
                 y.keep();
-                act(y, now);
+                Barges.act(y, now);
                 return y.restore();
             });
         }

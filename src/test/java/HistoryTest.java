@@ -21,51 +21,17 @@ public final class HistoryTest {
         ANSWERS.isTrue(what + ": " + got + " due is " + want, got.equals(want));
     }
 
-    /** A barge of which every part of the state has been changed. */
-    private static BargeBallast busy() {
-        BargeBallast x = Barges.open();
-        x.load(0, 100, 3);
-        x.load(2, 50, 2);
-        x.leak(1, 4);
-        x.set(1, 2);
-        x.set(2, 130);
-        x.setGroup(1, 13);
-        Barges.workText(x, "c4;o1;f7;e2;o1;l1;c1;o3");
-        x.sound(1);
-        x.pass(15);
-        x.sound(1);
-        Barges.type(x, "f5;c2;o0;l3");
-        x.orderAll();
-        return x;
-    }
-
-    private static int act(BargeBallast x, int number) {
-        switch (number) {
-            case 0: return x.load(1, 60, -2);
-            case 1: return x.leak(1, 9);
-            case 2: return x.setGroup(3, 7);
-            case 3: return x.set(0, 9);
-            case 4: return x.order(3, 9);
-            case 5: return x.orderAll();
-            case 6: return x.strike(1);
-            case 7: return x.work(4);
-            case 8: return x.pass(25);
-            case 9: return x.sound(1);
-            default: return x.restore();
-        }
-    }
-
     private static void undoTakesBackEveryAct() {
-        for (int number = 0; number <= 10; number++) {
-            BargeBallast x = busy();
-            BargeBallast other = busy();
+        for (int number = 0; number < Barges.ACTS; number++) {
+            BargeBallast x = Barges.lived();
+            BargeBallast other = Barges.lived();
             x.keep();
             if (number == 10) {
                 x.pass(30);
                 other.pass(30);
             }
             String before = Barges.toldState(x);
-            due("act " + number + " is no error", act(x, number) > -1001 ? 1 : 0, 1);
+            due("act " + number + " is no error", Barges.act(x, number) > -1001 ? 1 : 0, 1);
             ANSWERS.isTrue("act " + number + " changes the state",
                     !before.equals(Barges.toldState(x)));
             due("undo()", x.undo(), 3);

@@ -12,7 +12,7 @@ final class Refusals {
         this.answers = answers;
     }
 
-    /** Every look is taken at two barges of its own: one that got the call, and one that did not. */
+    /** Every look is taken at two barges of its own: one got the call, and the other did not. */
     void due(String call, Supplier<BargeBallast> made, ToIntFunction<BargeBallast> called,
             int want) {
         answers.due(call, called.applyAsInt(made.get()), want);

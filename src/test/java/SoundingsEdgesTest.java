@@ -24,6 +24,8 @@ public final class SoundingsEdgesTest {
 
     private static void keeping() {
         said("To sound a tank keeps the minute and its water", SoundingsEdgesTest::keepsBoth);
+        said("To sound a tank keeps both of it, and changes nothing else",
+                SoundingsEdgesTest::keepsNothingElse);
         said("sound returns its water", SoundingsEdgesTest::soundTellsTheWater);
         said("the latest 3 soundings are kept", SoundingsEdgesTest::theOldestIsDropped);
         said("the latest 3 soundings of each tank are kept", SoundingsEdgesTest::ofEachTank);
@@ -69,6 +71,38 @@ public final class SoundingsEdgesTest {
         y.sound(7);
         due("minute 0", y.sounding(7, 0, true), 0);
         due("water", y.sounding(7, 0, false), 20);
+    }
+
+    private static void keepsNothingElse() {
+        for (int tank = 0; tank < 8; tank++) {
+            BargeBallast x = Barges.lived();
+            Barges.openOnly(x, 4, 255);
+            Barges.workText(x, "f60");
+            String[] before = toldBesideSoundings(x);
+            for (int times = 0; times < 3; times++) {
+                x.sound(tank);
+            }
+            String[] after = toldBesideSoundings(x);
+            for (int part = 0; part < before.length; part++) {
+                ANSWERS.isTrue("tank " + tank + ": " + after[part] + " due is " + before[part],
+                        after[part].equals(before[part]));
+            }
+        }
+    }
+
+    private static String[] toldBesideSoundings(BargeBallast x) {
+        StringBuilder counts = new StringBuilder("counts");
+        for (int what = 0; what <= 18; what++) {
+            counts.append(' ').append(x.count(what));
+        }
+        StringBuilder parts = new StringBuilder("leaks, groups, holds");
+        for (int number = 0; number < 8; number++) {
+            parts.append(' ').append(x.tank(number, 0)).append(' ').append(x.tank(number, 1));
+            parts.append(' ').append(x.tank(number, 3)).append(' ').append(x.tank(number, 6));
+            parts.append(' ').append(x.group(number, 0)).append(' ').append(x.group(number, 1));
+            parts.append(' ').append(x.hold(number, 0)).append(' ').append(x.hold(number, 1));
+        }
+        return new String[] {counts.toString(), parts.toString()};
     }
 
     private static void soundTellsTheWater() {

@@ -64,6 +64,7 @@ public final class ToldEdgesTest {
     }
 
     private static void counts() {
+        said("used for at most 512 calls: minutes so far", ToldEdgesTest::minutesOf512Calls);
         said("units from the river so far", ToldEdgesTest::fromTheRiver);
         said("units into the river so far", ToldEdgesTest::intoTheRiver);
         said("units lost by leaks so far", ToldEdgesTest::lostByLeaks);
@@ -367,6 +368,17 @@ public final class ToldEdgesTest {
             int want = Barges.lived().upright(100, what);
             REFUSALS.due("upright " + what, Barges::lived, x -> x.upright(100, now), want);
         }
+    }
+
+    private static void minutesOf512Calls() {
+        BargeBallast x = new BargeBallast();
+        x.leak(7, 9);
+        for (int calls = 2; calls <= 509; calls++) {
+            x.pass(200);
+        }
+        due("call 510: the list", x.count(2), -1);
+        due("call 511: minutes", x.count(7), 508 * 200);
+        due("call 512: undo", x.undo(), 3);
     }
 
     private static void fromTheRiver() {
