@@ -867,7 +867,7 @@ public final class BargeBallast {
 
         /** Answers whether there was room. */
         boolean add(char sign) {
-            if (length >= TEXT_LIMIT) {
+            if (!isWithin(length, 0, TEXT_LIMIT - 1)) {
                 return false;
             }
             signs[length] = sign;
@@ -883,7 +883,7 @@ public final class BargeBallast {
         int read() {
             orders = 0;
             expected = LETTER;
-            for (int place = 0; place < length; place++) {
+            for (int place = 0; place < length && place < TEXT_LIMIT; place++) {
                 if (!takes(signs[place])) {
                     return place;
                 }
@@ -896,11 +896,11 @@ public final class BargeBallast {
         }
 
         int kindOf(int place) {
-            return place >= 0 && place < orders ? kinds[place] : 0;
+            return isWithin(place, 0, TEXT_LIMIT - 1) ? kinds[place] : 0;
         }
 
         int byOf(int place) {
-            return place >= 0 && place < orders ? bys[place] : 0;
+            return isWithin(place, 0, TEXT_LIMIT - 1) ? bys[place] : 0;
         }
 
         private boolean takes(char sign) {
@@ -915,7 +915,7 @@ public final class BargeBallast {
 
         private boolean takesLetter(char sign) {
             int kind = kindOfLetter(sign);
-            if (kind == NO_KIND || orders >= TEXT_LIMIT) {
+            if (kind == NO_KIND || !isWithin(orders, 0, TEXT_LIMIT - 1)) {
                 return false;
             }
             kinds[orders] = kind;
@@ -942,7 +942,7 @@ public final class BargeBallast {
         }
 
         private boolean takesFirstDigit(char sign, char least, char most, int expectedThen) {
-            if (sign < least || sign > most || orders <= 0) {
+            if (!isWithin(sign, least, most) || !isWithin(orders, 1, TEXT_LIMIT)) {
                 return false;
             }
             bys[orders - 1] = sign - '0';
@@ -951,7 +951,7 @@ public final class BargeBallast {
         }
 
         private boolean takesNextDigit(char sign) {
-            if (sign < '0' || sign > '9' || orders <= 0) {
+            if (!isWithin(sign, '0', '9') || !isWithin(orders, 1, TEXT_LIMIT)) {
                 return false;
             }
             int by = bys[orders - 1] * 10 + sign - '0';
@@ -993,7 +993,7 @@ public final class BargeBallast {
 
         void bringBack(State state) {
             int latest = (next + HISTORY_LIMIT - 1) % HISTORY_LIMIT;
-            if (length == 0 || latest < 0) {
+            if (length == 0 || latest < 0 || latest >= HISTORY_LIMIT) {
                 return;
             }
             state.copyFrom(rows[latest]);
